@@ -386,6 +386,19 @@ public final class GiftPurposesTest {
         x.set(1, 0);
         x.give(1, 0, 1);
         due("claim()", x.claim(), IMPOSSIBLE);
+        // in a later year, in other months of it
+        x.set(1, 100);
+        x.pass(13);
+        x.give(0, 0, 60);
+        due("claim()", x.claim(), 15);
+        x.pass(10);
+        x.give(0, 0, 41);
+        due("claim() in the last month of the year", x.claim(), IMPOSSIBLE);
+        x.pass(1);
+        x.give(0, 0, 41);
+        due("claim() in the next year", x.claim(), 10);
+        due("claimed", x.giftOf(9, 4), 0);
+        due("claimed", x.giftOf(10, 4), 1);
     }
 
     private static void taxesGoHome() {
@@ -536,6 +549,19 @@ public final class GiftPurposesTest {
         }
         closedAndGeneral();
         pledgesWithAPurposeMerged();
+        almostEnough();
+    }
+
+    private static void almostEnough() {
+        GiftPurposes x = with(3, 2);
+        x.give(0, 1, 599);
+        x.give(1, 1, 401);
+        x.agree(0, 1, 2);
+        due("merge(1, 2) by 599 of 1000", x.merge(1, 2), IMPOSSIBLE);
+        x.give(0, 1, 2);
+        due("merge(1, 2) by 601 of 1002", x.merge(1, 2), IMPOSSIBLE);
+        x.give(0, 1, 1);
+        due("merge(1, 2) by 602 of 1003", x.merge(1, 2), 1003);
     }
 
     private static void closedAndGeneral() {
@@ -893,6 +919,40 @@ public final class GiftPurposesTest {
         for (int far : FAR) {
             due("count(far)", x.count(far), INVALID);
         }
+        fullHouse();
+    }
+
+    /** The last purpose, donor, gift and pledge, when there is no room for more. */
+    private static void fullHouse() {
+        GiftPurposes x = with(6, 8);
+        x.declare(7, 1);
+        for (int pledge = 0; pledge < 6; pledge++) {
+            x.pledge(7, 5, 4, 9);
+        }
+        for (int gift = 0; gift < 24; gift++) {
+            x.give(7, 5, 8);
+        }
+        due("miss(5)", x.miss(5), 0);
+        due("agree(7, 5, 4)", x.agree(7, 5, 4), 192);
+        due("claim()", x.claim(), 48);
+        due("refund(23)", x.refund(23), 2);
+        int[] purpose = {230, 192, 48, 0, 0, 8, 2, 0, 0, MISSING, 5, 0};
+        for (int what = 0; what < purpose.length; what++) {
+            due("purposeOf(5, " + what + ")", x.purposeOf(5, what), purpose[what]);
+        }
+        int[] gift = {7, 5, 8, 0, 1, 1, MISSING, 2};
+        int[] pledge = {7, 5, 4, 9, 0, 0, 0, 1};
+        for (int what = 0; what < gift.length; what++) {
+            due("giftOf(23, " + what + ")", x.giftOf(23, what), gift[what]);
+            due("pledgeOf(5, " + what + ")", x.pledgeOf(5, what), pledge[what]);
+        }
+        due("donorOf(7, 4)", x.donorOf(7, 4), 63);
+        due("donorOf(7, 15)", x.donorOf(7, 15), 4);
+        due("donorOf(7, 16)", x.donorOf(7, 16), INVALID);
+        int[] want = {6, 8, 24, 6, 0, 230, 0, 48, 2, 8, 0, 4, 0, 60, 5000};
+        for (int what = 0; what < want.length; what++) {
+            due("count(" + what + "), full", x.count(what), want[what]);
+        }
     }
 
     private static void wouldClaim() {
@@ -927,6 +987,9 @@ public final class GiftPurposesTest {
         due("consents(1, 2)", x.consents(1, 2), MISSING);
         x.agree(0, 1, 2);
         due("consents(1, 2)", x.consents(1, 2), MISSING);
+        x.give(0, 1, 1);
+        due("consents(1, 2)", x.consents(1, 2), 100);
+        x.undo();
         x.give(0, 1, 20);
         due("consents(1, 2)", x.consents(1, 2), 100);
         x.give(1, 1, 10);
@@ -1024,6 +1087,9 @@ public final class GiftPurposesTest {
             x.give(0, 0, amount);
             states(x, Math.min(4, amount + 1));
         }
+        // a refused call does not cost the oldest state
+        due("give(0, 0, 0)", x.give(0, 0, 0), INVALID);
+        due("claim()", x.claim(), IMPOSSIBLE);
         int[] fund = {15, 10, 6, 3};
         for (int left = 3; left >= 0; left--) {
             due("undo()", x.undo(), left);
@@ -1056,9 +1122,9 @@ public final class GiftPurposesTest {
             due("undo() of change " + change, x.undo(), 3);
             due("the state of before change " + change, before.equals(told(x)) ? 1 : 0, 1);
             due("length of the text", x.count(12), 22);
-            // fill the history again
-            x.set(0, 60);
-            x.set(1, 5000);
+            // fill the history again, with states that differ
+            x.set(0, 50 - change);
+            x.set(1, 4000 + change);
         }
     }
 
@@ -1164,7 +1230,8 @@ public final class GiftPurposesTest {
             "give 0 0 1:", "give 0 0 x;", "giv 0 0 1;", "gives 0 0 1;", "pledge 0 0 1;", "pledge 0 0 1 1 1;",
             "miss;", "miss 0 0;", "claim 0;", "claim ;", "spend 0;", "spend 0 1 1;", "agree 0 1;", "agree 0 1 2 3;",
             "merge 1;", "merge 1 2 3;", "refund;", "refund 0 0;", "pass;", "pass 1 1;", "stop 0;", "donor;",
-            "purpose;", "set 0 5;", "declare 0 1;", "play;", "pass 1,", "pass +1;", "pass 1"};
+            "purpose;", "set 0 5;", "declare 0 1;", "play;", "pass 1,", "pass +1;", "pass 1",
+            "pass ;", "give 0 0 ;", "give  0 1;", "spend 0  ;"};
         for (String form : wrong) {
             faults(x, form, 0, 1, MISSING);
             faults(x, "pass 1;" + form, 7, 1, MISSING);
@@ -1205,7 +1272,8 @@ public final class GiftPurposesTest {
         states(x, 4);
         due("length", x.count(12), 55);
         due("fund", x.purposeOf(1, 0), 91);
-        due("pledge", x.pledgeOf(0, 2), 7);
+        due("amount of the pledge", x.pledgeOf(0, 2), 7);
+        due("months of the pledge", x.pledgeOf(0, 3), 3);
         due("consent", x.donorOf(0, 11), 2);
         due("play() again", x.play(), 5);
         due("fund", x.purposeOf(1, 0), 182);
