@@ -18,9 +18,9 @@ public final class GiftPurposes {
     /** In place of a donor's number: all donors. */
     private static final int ALL = -1;
 
-    private final Books books = new Books();
+    private final Books books = new Books(new int[Books.CELLS]);
     /** Takes what is only tried: forecasts, and texts before it is known whether they have a fault. */
-    private final Books trial = new Books();
+    private final Books trial = new Books(new int[Books.CELLS]);
     private final History history = new History();
     private final Script script = new Script();
 
@@ -370,13 +370,19 @@ public final class GiftPurposes {
         private static final int PLEDGES_AT = GIFTS_AT + 1 + MOST_GIFTS * GIFT_WIDTH;
         static final int CELLS = PLEDGES_AT + 1 + MOST_PLEDGES * PLEDGE_WIDTH;
 
-        private final int[] cells = new int[CELLS];
-        private final Table purposes = new Table(cells, PURPOSES_AT, MOST_PURPOSES, PURPOSE_WIDTH);
-        private final Table donors = new Table(cells, DONORS_AT, MOST_DONORS, DONOR_WIDTH);
-        private final Table gifts = new Table(cells, GIFTS_AT, MOST_GIFTS, GIFT_WIDTH);
-        private final Table pledges = new Table(cells, PLEDGES_AT, MOST_PLEDGES, PLEDGE_WIDTH);
+        private final int[] cells;
+        private final Table purposes;
+        private final Table donors;
+        private final Table gifts;
+        private final Table pledges;
 
-        Books() {
+        /** The array has CELLS elements, which are 0. */
+        Books(int[] cells) {
+            this.cells = cells;
+            purposes = new Table(cells, PURPOSES_AT, MOST_PURPOSES, PURPOSE_WIDTH);
+            donors = new Table(cells, DONORS_AT, MOST_DONORS, DONOR_WIDTH);
+            gifts = new Table(cells, GIFTS_AT, MOST_GIFTS, GIFT_WIDTH);
+            pledges = new Table(cells, PLEDGES_AT, MOST_PLEDGES, PLEDGE_WIDTH);
             cells[HUNDREDTHS] = 60;
             cells[BOUND] = 5000;
             addPurpose();
