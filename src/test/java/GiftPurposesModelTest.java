@@ -8,12 +8,14 @@ import java.util.regex.Pattern;
 
 /**
  * Random runs of calls, each answer compared with that of a model which is written another way: it keeps entries and
- * adds them up when it is asked, copies whole states, and reads texts by patterns. After each call the accounts of
- * each purpose must agree. The seeds are fixed: each run of the test does the same calls.
+ * adds them up when it is asked, copies whole states, and reads texts by patterns. At the end of each run the accounts
+ * of each purpose must agree. The seeds are fixed: each run of the test does the same calls.
  */
 public final class GiftPurposesModelTest {
-    private static final int RUNS = 6000;
-    private static final int CALLS = 300;
+    private static final int RUNS = 20000;
+    /** An object is used for so many calls, of which the last ones tell what there is then. */
+    private static final int MOST_CALLS = 512;
+    private static final int CALLS = 320;
 
     private static int failed = 0;
 
@@ -608,6 +610,7 @@ public final class GiftPurposesModelTest {
         private final int donors;
         private final int span;
         private final int money;
+        private int used = 0;
 
         Run(int seed) {
             this.seed = seed;
@@ -636,23 +639,20 @@ public final class GiftPurposesModelTest {
                     return false;
                 }
             }
-            for (int call = 0; call < CALLS; call++) {
-                if (!step() || !accountsAgree()) {
+            while (used < CALLS) {
+                if (!step()) {
                     return false;
                 }
             }
-            return everythingTold();
+            return accountsAgree() && everythingTold();
         }
 
         private boolean step() {
             int dice = random.nextInt(100);
-            if (dice < 4) {
+            if (dice < 3) {
                 return text();
             }
-            if (dice < 6) {
-                return everythingTold();
-            }
-            if (dice < 8) {
+            if (dice < 5) {
                 return wild();
             }
             int call = random.nextInt(27);
@@ -742,6 +742,10 @@ public final class GiftPurposesModelTest {
         }
 
         private boolean same(int call, int... given) {
+            if (used >= MOST_CALLS) {
+                return true;
+            }
+            used++;
             int[] n = new int[4];
             System.arraycopy(given, 0, n, 0, given.length);
             int got = ask(call, n);
@@ -789,28 +793,43 @@ public final class GiftPurposesModelTest {
             }
         }
 
+        /** What is told of all that there is, and of one number more of each; the latest gifts first. */
         private boolean everythingTold() {
-            boolean fine = true;
+            boolean fine = same(20, -1);
             for (int what = 0; fine && what < 15; what++) {
                 fine = same(19, what);
             }
-            for (int number = 0; fine && number < 24; number++) {
-                for (int what = 0; fine && what < 16; what++) {
-                    fine = same(15, number, what) && same(16, number, what) && same(17, number, what)
-                            && same(18, number, what);
-                }
+            for (int pledge = model.world.pledges.size(); fine && pledge >= 0; pledge--) {
+                fine = allOf(18, pledge, 8);
             }
-            return fine && same(20, -1);
+            for (int donor = model.world.declares.size(); fine && donor >= 0; donor--) {
+                fine = allOf(16, donor, 16);
+            }
+            for (int gift = model.world.gifts.size(); fine && gift >= 0; gift--) {
+                fine = allOf(17, gift, 8);
+            }
+            return fine;
+        }
+
+        private boolean allOf(int call, int number, int numbers) {
+            boolean fine = true;
+            for (int what = 0; fine && what < numbers; what++) {
+                fine = same(call, number, what);
+            }
+            return fine;
         }
 
         private boolean accountsAgree() {
-            for (int purpose = 0; purpose < object.count(0); purpose++) {
-                int[] signs = {-1, 1, 1, -1, 1, -1, -1, 1, -1, 0, 0, -1};
+            int[] signs = {-1, 1, 1, -1, 1, -1, -1, 1, -1, 0, 0, -1};
+            for (int purpose = 0; purpose < model.world.purposes; purpose++) {
+                if (!allOf(15, purpose, 12)) {
+                    return false;
+                }
                 int sum = 0;
                 for (int what = 0; what < signs.length; what++) {
-                    sum += signs[what] * object.purposeOf(purpose, what);
+                    sum += signs[what] * model.world.purposeOf(purpose, what);
                 }
-                if (sum != 0 || object.purposeOf(purpose, 0) < 0) {
+                if (sum != 0 || model.world.fund(purpose) < 0) {
                     System.out.println("run " + seed + ":\n" + calls + "the accounts of " + purpose + " do not agree");
                     return false;
                 }

@@ -1109,22 +1109,19 @@ public final class GiftPurposesTest {
 
     /** Each kind of change is undone by one step, but the text stays. */
     private static void undoneChanges() {
-        GiftPurposes x = with(3, 2);
-        x.declare(0, 1);
-        x.give(0, 1, 100);
-        x.agree(0, 1, 2);
-        x.pledge(0, 1, 10, 9);
-        write(x, "give 0 0 4;give 1 0 5;");
         for (int change = 0; change < 15; change++) {
+            GiftPurposes x = with(3, 2);
+            x.declare(0, 1);
+            x.give(0, 1, 100);
+            x.agree(0, 1, 2);
+            x.pledge(0, 1, 10, 9);
+            write(x, "give 0 0 4;give 1 0 5;");
             String before = told(x);
             boolean changed = change(x, change) >= 0;
             due("change " + change, changed && !before.equals(told(x)) ? 1 : 0, 1);
             due("undo() of change " + change, x.undo(), 3);
             due("the state of before change " + change, before.equals(told(x)) ? 1 : 0, 1);
             due("length of the text", x.count(12), 22);
-            // fill the history again, with states that differ
-            x.set(0, 50 - change);
-            x.set(1, 4000 + change);
         }
     }
 
@@ -1148,16 +1145,30 @@ public final class GiftPurposesTest {
         }
     }
 
-    /** All that can be asked for, but the history and the text. */
+    /** All that there is, but the history and the text. */
     private static String told(GiftPurposes x) {
         StringBuilder all = new StringBuilder();
         for (int what = 0; what < 15; what++) {
             all.append(what == 11 || what == 12 ? 0 : x.count(what)).append(' ');
         }
-        for (int number = 0; number < 24; number++) {
+        for (int purpose = 0; purpose < x.count(0); purpose++) {
+            for (int what = 0; what < 12; what++) {
+                all.append(x.purposeOf(purpose, what)).append(' ');
+            }
+        }
+        for (int donor = 0; donor < x.count(1); donor++) {
             for (int what = 0; what < 16; what++) {
-                all.append(x.purposeOf(number, what)).append(' ').append(x.donorOf(number, what)).append(' ');
-                all.append(x.giftOf(number, what)).append(' ').append(x.pledgeOf(number, what)).append(' ');
+                all.append(x.donorOf(donor, what)).append(' ');
+            }
+        }
+        for (int gift = 0; gift < x.count(2); gift++) {
+            for (int what = 0; what < 8; what++) {
+                all.append(x.giftOf(gift, what)).append(' ');
+            }
+        }
+        for (int pledge = 0; pledge < x.count(3); pledge++) {
+            for (int what = 0; what < 8; what++) {
+                all.append(x.pledgeOf(pledge, what)).append(' ');
             }
         }
         return all.toString();
@@ -1218,13 +1229,13 @@ public final class GiftPurposesTest {
         faults(x, "give 2 0 1;", 0, 2, INVALID);
         faults(x, "give 0 0 1;pass 61;x", 11, 2, INVALID);
         due("fault(3)", x.fault(3), INVALID);
-        forms(x);
+        forms();
         due("gifts", x.count(2), 0);
         states(x, 4);
         limitAsCause();
     }
 
-    private static void forms(GiftPurposes x) {
+    private static void forms() {
         String[] wrong = {";", " ", "give", "give;", "give 0;", "give 0 0;", "give 0 0 1 1;", "give 0 0 1 ;",
             " give 0 0 1;", "give  0 0 1;", "give 0  0 1;", "give0 0 1;", "Give 0 0 1;", "give 0 0 -1;",
             "give 0 0 1:", "give 0 0 x;", "giv 0 0 1;", "gives 0 0 1;", "pledge 0 0 1;", "pledge 0 0 1 1 1;",
@@ -1233,11 +1244,11 @@ public final class GiftPurposesTest {
             "purpose;", "set 0 5;", "declare 0 1;", "play;", "pass 1,", "pass +1;", "pass 1",
             "pass ;", "give 0 0 ;", "give  0 1;", "spend 0  ;"};
         for (String form : wrong) {
-            faults(x, form, 0, 1, MISSING);
-            faults(x, "pass 1;" + form, 7, 1, MISSING);
+            faults(with(3, 2), form, 0, 1, MISSING);
+            faults(with(3, 2), "pass 1;" + form, 7, 1, MISSING);
         }
-        faults(x, "pass 1; pass 1;", 7, 1, MISSING);
-        faults(x, "pass 1;;", 7, 1, MISSING);
+        faults(with(3, 2), "pass 1; pass 1;", 7, 1, MISSING);
+        faults(with(3, 2), "pass 1;;", 7, 1, MISSING);
     }
 
     private static void limitAsCause() {
